@@ -324,14 +324,14 @@ public final class HousesTest {
             "strike t<12", "strike t>12", "strike t>12|t<11", "strike h=1&e=2", "strike h=1&e=3|k=5",
             "strike k=5|h=1&e=2", "strike (k=5|h=1)&e=2", "strike !(k=5|h=1)", "strike !k=5&h=2",
             "strike !(!(!h=1))", "strike h=1;strike h=2", "strike !!h=1|!!!h=1", "strike h=0001", "strike h=11",
-            "strike t<999999", "strike t>000000"};
+            "strike t<999999", "strike t>000000", "strike e=2&(k=5|h=1)", "strike h=1&(e=1)|k=4&!(h=1|e=3)"};
         // 1: hand 1 edge 1 at 10; 2: hand 1 edge 2 at 11; 3: hand 2 edge 3, a plate at 12; 4: hand 3, edge 1, a blur at 13
         String[] left = {
             "34", "12", "", "1234", "134", "124", "123",
             "34", "123", "23", "134", "124",
             "14", "134", "123", "1234",
             "12", "4", "", "34", "1234",
-            "", ""};
+            "", "", "134", "23"};
         for (int i = 0; i < texts.length; i++) {
             SpotTimers x = trueClock();
             x.reading(3, 0, 1, 10, 1);

@@ -3,6 +3,7 @@ public final class PlacesActsTapesTest {
     public static void main(String[] args) {
         place();
         goTies();
+        goNearly();
         goEdges();
         difference();
         beside();
@@ -53,6 +54,15 @@ public final class PlacesActsTapesTest {
         Due.due("lost of one", x.lost(1, 400, 1), 0);
         Due.due("four", x.go(4, 19, 1), 15);
         Due.due("four with 18", x.go(4, 18, 0), Due.STATE);
+    }
+
+    private static void goNearly() {
+        SpotTimers x = new SpotTimers();
+        x.place(1, 8, 0);
+        x.place(3, 1, 0);
+        Due.due("a worth of 1 more", x.go(1, 0, 1), 2);
+        Due.due("for nothing", x.go(1, 0, 2), 0);
+        Due.due("lost", x.lost(1, 0, 1), 1);
     }
 
     private static void goEdges() {
@@ -162,6 +172,16 @@ public final class PlacesActsTapesTest {
         Due.due("two against one", x.beside(1), 0);
         x.stop(2, 0);
         Due.due("of another that stopped", x.beside(2), 1);
+        SpotTimers y = new SpotTimers();
+        y.station(0, 0);
+        y.clock(0);
+        y.clock(0);
+        y.reading(3, 0, 0, 0, 1);
+        y.reading(3, 1, 0, 0, 1);
+        y.stop(0, 0);
+        y.stop(1, 0);
+        Due.due("the first reading", y.beside(0), 1);
+        Due.due("with the first reading", y.beside(1), 0);
     }
 
     private static SpotTimers oneOfEach() {

@@ -236,6 +236,11 @@ public final class StationsTest {
         Due.due("the latest of those that show the same", x.time(0, 300), 290);
         x.withdraw(3);
         Due.due("it is withdrawn", x.time(0, 300), 400);
+        x.withdraw(x.reading(1, 0, 0, 600, 0));
+        int first = x.reading(1, 0, 0, 100, 200);
+        Due.due("the latest of the first", x.time(0, 100), 200);
+        Due.due("it alone", x.time(0, 99), 199);
+        x.withdraw(first);
         x.withdraw(0);
         Due.due("so is the other", x.time(0, 300), 190 + 83);
         x.copied(0, 300);
@@ -273,6 +278,10 @@ public final class StationsTest {
         x.reading(1, 0, 0, 1, 4);
         Due.due("time 2000000", x.time(0, 500000), 2000000);
         Due.due("time 2000004", x.time(0, 500001), Due.NO);
+        x.reading(1, 0, 0, 0, 1);
+        x.reading(1, 0, 0, 1, 5);
+        Due.due("time 1999997", x.time(0, 499999), 1999997);
+        Due.due("time 2000001", x.time(0, 500000), Due.NO);
         SpotTimers y = oneClock(0, 0);
         y.reading(1, 0, 0, 0, 4);
         y.reading(1, 0, 0, 1, 0);
@@ -355,6 +364,10 @@ public final class StationsTest {
         Due.due("a BLUR's last behind the stop", x.seen(2, 1), Due.NO);
         Due.due("its first ahead of it", x.seen(2, 0), 79);
         Due.due("a COPIED behind the stop", x.seen(6, 0), Due.NO);
+        SpotTimers high = oneClock(0, 4000);
+        high.reading(1, 0, 0, 0, 0);
+        high.reading(3, 0, 0, 20, 1);
+        Due.due("from a height of 4000", high.seen(1, 0), -20);
         SpotTimers y = oneClock(99999, 0);
         y.reading(1, 0, 0, 0, 0);
         y.reading(3, 0, 0, 20, 1);
@@ -414,6 +427,9 @@ public final class StationsTest {
         Due.due("the last place there can be", x.book(0, 0, 1, 0, Integer.MAX_VALUE, 40), 0);
         Due.due("ended PLACE", x.ended(), 2);
         Due.due("no time", x.book(0, 0, 1, 4, 0, 2), 0);
+        Due.due("ended no time", x.ended(), 3);
+        x.item(4, 0, -1);
+        Due.due("an eighth below 0", x.book(0, 0, 1, 4, 0, 2), 0);
         Due.due("ended no time", x.ended(), 3);
         Due.due("beyond the end", x.book(0, 0, 1, 0, 1, 40), 39);
         Due.due("ended PLACE", x.ended(), 2);

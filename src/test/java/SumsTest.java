@@ -304,6 +304,9 @@ public final class SumsTest {
         x.letter(0, 0, 0);
         // P is 0, each rest is 1, the sum is 8: ways of 3^8 below the middle
         Due.due("8 are counted", x.tooWell(0, 0, 1), (6561 - 1107) / 2);
+        x.table(1, 999999);
+        x.lever(0, 1, 1);
+        Due.due("all ways", x.tooWell(0, 0, 99), 6561);
         x.reading(3, 0, 0, 1, 1);
         x.letter(0, 0, 0);
         Due.due("9 are counted", x.tooWell(0, 0, 1), Due.STATE);

@@ -25,6 +25,15 @@ final class Due {
         due(what, holds ? 1 : 0, 1);
     }
 
+    /** A STATION 0 whose CLOCK 0 shows true time; READING 0 is its STAR. */
+    static SpotTimers trueClock() {
+        SpotTimers x = new SpotTimers();
+        x.station(0, 0);
+        x.clock(0);
+        x.reading(1, 0, 0, 0, 0);
+        return x;
+    }
+
     /** Feeds a text byte by byte and makes it a RULE. */
     static int rule(SpotTimers x, int house, int day, String text) {
         for (int i = 0; i < text.length(); i++) {

@@ -161,15 +161,6 @@ public final class HousesTest {
         dueRuled(x, 2, 30, 2, 9999, 0, 0, 0, 1, 1, 1, 1, 1, 1);
     }
 
-    /** A STATION 0 whose CLOCK 0 shows true time; STAR 0 is told. */
-    private static SpotTimers trueClock() {
-        SpotTimers x = new SpotTimers();
-        x.station(0, 0);
-        x.clock(0);
-        x.reading(1, 0, 0, 0, 0);
-        return x;
-    }
-
     private static void dueCounted(String what, SpotTimers x, int house, int day, int... want) {
         Due.due(what + ": how many", x.counted(house, day, -1), want.length);
         for (int i = 0; i < want.length; i++) {
@@ -179,7 +170,7 @@ public final class HousesTest {
     }
 
     private static void countedKinds() {
-        SpotTimers x = trueClock();
+        SpotTimers x = Due.trueClock();
         x.reading(2, 0, 0, 10, 0);
         int edge = x.reading(3, 0, 0, 11, 1);
         int blur = x.reading(4, 0, 0, 12, 17);
@@ -199,7 +190,7 @@ public final class HousesTest {
     }
 
     private static void countedCopied() {
-        SpotTimers x = trueClock();
+        SpotTimers x = Due.trueClock();
         int edge = x.reading(3, 0, 0, 11, 1);
         int hidden = x.reading(3, 0, 1, 12, 2);
         int blur = x.reading(4, 0, 1, 20, 30);
@@ -231,7 +222,7 @@ public final class HousesTest {
     }
 
     private static void countedWithdrawn() {
-        SpotTimers x = trueClock();
+        SpotTimers x = Due.trueClock();
         int edge = x.reading(3, 0, 0, 11, 1);
         int blur = x.reading(4, 0, 0, 20, 30);
         x.letter(0, 0, 0);
@@ -265,7 +256,7 @@ public final class HousesTest {
         Due.due("last", x.counts(0, 2, blur), -69);
         Due.due("middle", x.counts(0, 3, blur), -75);
         Due.due("struck", x.counts(0, 4, blur), Due.NO);
-        SpotTimers y = trueClock();
+        SpotTimers y = Due.trueClock();
         int other = y.reading(4, 0, 0, 20, 30);
         y.letter(0, 1, 0);
         Due.ruleBy4(y, 1, 0, "strike t>24");
@@ -301,7 +292,7 @@ public final class HousesTest {
     }
 
     private static void edgesAndWeights() {
-        SpotTimers x = trueClock();
+        SpotTimers x = Due.trueClock();
         int[] r = new int[4];
         for (int i = 0; i < 4; i++) {
             r[i] = x.reading(3, 0, i, 100 + i, i + 1);
@@ -333,7 +324,7 @@ public final class HousesTest {
             "12", "4", "", "34", "1234",
             "", "", "134", "23"};
         for (int i = 0; i < texts.length; i++) {
-            SpotTimers x = trueClock();
+            SpotTimers x = Due.trueClock();
             x.reading(3, 0, 1, 10, 1);
             x.reading(3, 0, 1, 11, 2);
             x.reading(5, 0, 2, 12, 3500);
@@ -349,7 +340,7 @@ public final class HousesTest {
     }
 
     private static void refusals() {
-        SpotTimers x = trueClock();
+        SpotTimers x = Due.trueClock();
         int edge = x.reading(3, 0, 0, 10, 1);
         x.letter(0, 0, 0);
         Due.due("counted, house 3", x.counted(3, -1, -1), Due.NONE);

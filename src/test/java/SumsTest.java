@@ -52,22 +52,13 @@ public final class SumsTest {
         Due.due("what it was", x.lever(0, 4, 0), -99);
     }
 
-    /** STATION 0 with a CLOCK that shows true time, told to HOUSE 0 once tell() is called. */
-    private static SpotTimers trueClock() {
-        SpotTimers x = new SpotTimers();
-        x.station(0, 0);
-        x.clock(0);
-        x.reading(1, 0, 0, 0, 0);
-        return x;
-    }
-
     private static void dueSum(String what, SpotTimers x, int day, long above, long below) {
         Due.due(what + ": above", x.sum(0, day, 0), above);
         Due.due(what + ": below", x.sum(0, day, 1), below);
     }
 
     private static void sumOfOne() {
-        SpotTimers x = trueClock();
+        SpotTimers x = Due.trueClock();
         x.table(2, 100);
         x.lever(0, 2, 7);
         x.reading(3, 0, 0, 103, 2);
@@ -86,7 +77,7 @@ public final class SumsTest {
     }
 
     private static void sumOfNothing() {
-        SpotTimers x = trueClock();
+        SpotTimers x = Due.trueClock();
         x.reading(3, 0, 0, 103, 2);
         x.reading(3, 0, 0, 104, 3);
         x.letter(0, 0, 0);
@@ -100,7 +91,7 @@ public final class SumsTest {
     }
 
     private static void sumWeighed() {
-        SpotTimers x = trueClock();
+        SpotTimers x = Due.trueClock();
         x.lever(0, 1, 10);
         x.lever(0, 2, -20);
         x.reading(3, 0, 0, 5, 1);
@@ -118,7 +109,7 @@ public final class SumsTest {
     }
 
     private static void sumReduced() {
-        SpotTimers x = trueClock();
+        SpotTimers x = Due.trueClock();
         x.lever(0, 1, 99);
         x.lever(0, 2, -99);
         for (int i = 0; i < 40; i++) {
@@ -135,20 +126,20 @@ public final class SumsTest {
     }
 
     private static void distanceBounds() {
-        SpotTimers x = trueClock();
+        SpotTimers x = Due.trueClock();
         x.lever(0, 1, 100 - 1);
         x.lever(0, 2, 1);
         x.reading(3, 0, 0, 999, 2);
         x.letter(0, 0, 0);
         dueSum("99900", x, 0, 99900, 1);
         Due.due("distance", x.distance(0, 0, 0), 99900);
-        SpotTimers y = trueClock();
+        SpotTimers y = Due.trueClock();
         y.lever(0, 2, 1);
         y.reading(3, 0, 0, 1000, 2);
         y.letter(0, 0, 0);
         dueSum("100000", y, 0, 100000, 1);
         Due.due("at most 99999", y.distance(0, 0, 0), 99999);
-        SpotTimers z = trueClock();
+        SpotTimers z = Due.trueClock();
         z.lever(0, 2, -3);
         z.reading(3, 0, 0, 1, 2);
         z.letter(0, 0, 0);
@@ -157,7 +148,7 @@ public final class SumsTest {
     }
 
     private static void together() {
-        SpotTimers x = trueClock();
+        SpotTimers x = Due.trueClock();
         x.lever(0, 1, 3);
         x.lever(0, 2, -4);
         x.reading(3, 0, 0, 10, 1);
@@ -170,7 +161,7 @@ public final class SumsTest {
         // P = 100 (150 - 28) by (45 + 16) = 200: rests 10 - 6, 7 + 8
         Due.due("distance, weighed", x.distance(0, 1, 0), 200);
         Due.due("together, weighed", x.distance(0, 1, 1), 5 * 16 + 225);
-        SpotTimers y = trueClock();
+        SpotTimers y = Due.trueClock();
         y.lever(0, 1, -1);
         for (int i = 0; i < 80; i++) {
             y.reading(3, 0, 0, 999999, 1);
@@ -181,7 +172,7 @@ public final class SumsTest {
     }
 
     private static void rest() {
-        SpotTimers x = trueClock();
+        SpotTimers x = Due.trueClock();
         x.table(1, 50);
         x.lever(0, 1, -7);
         int edge = x.reading(3, 0, 0, 60, 1);
@@ -210,7 +201,7 @@ public final class SumsTest {
     }
 
     private static void blunders() {
-        SpotTimers x = trueClock();
+        SpotTimers x = Due.trueClock();
         x.lever(0, 1, 10);
         int[] shows = {10, 11, 500, 9, 10};
         for (int s : shows) {
@@ -225,7 +216,7 @@ public final class SumsTest {
         Due.due("rest 0", x.blunders(0, 2), 2 + 4 + 8);
         Due.due("rest 2", x.blunders(0, 3), 4);
         Due.due("none counted", x.blunders(1, 0), 0);
-        SpotTimers y = trueClock();
+        SpotTimers y = Due.trueClock();
         y.reading(3, 0, 0, 9, 1);
         y.reading(3, 0, 0, 5000, 2);
         y.letter(0, 0, 0);
@@ -236,7 +227,7 @@ public final class SumsTest {
     }
 
     private static void blundersTies() {
-        SpotTimers x = trueClock();
+        SpotTimers x = Due.trueClock();
         x.lever(0, 1, 100 - 50);
         x.reading(3, 0, 0, 10, 1);
         x.reading(3, 0, 0, 900, 1);
@@ -246,7 +237,7 @@ public final class SumsTest {
         Due.due("two of three, the least set", x.blunders(0, 0), 3);
         Due.ruleBy4(x, 0, 1, "rest 5");
         Due.due("one of three", x.blunders(0, 1), 2);
-        SpotTimers y = trueClock();
+        SpotTimers y = Due.trueClock();
         y.lever(0, 1, 50);
         y.reading(3, 0, 0, 10, 1);
         y.reading(3, 0, 0, 900, 1);
@@ -258,7 +249,7 @@ public final class SumsTest {
     }
 
     private static void blundersMost() {
-        SpotTimers x = trueClock();
+        SpotTimers x = Due.trueClock();
         x.lever(0, 1, 10);
         for (int i = 0; i < 12; i++) {
             x.reading(3, 0, 0, 1 << i, 1);
@@ -273,7 +264,7 @@ public final class SumsTest {
     }
 
     private static void tooWell() {
-        SpotTimers x = trueClock();
+        SpotTimers x = Due.trueClock();
         x.lever(0, 1, 10);
         x.reading(3, 0, 0, 10, 1);
         x.reading(3, 0, 0, 16, 1);
@@ -288,7 +279,7 @@ public final class SumsTest {
         Due.due("span 99", x.tooWell(0, 0, 99), 1);
         Due.ruleBy4(x, 0, 1, "weigh 0 7");
         Due.due("weights are no matter", x.tooWell(0, 1, 3), 3);
-        SpotTimers y = trueClock();
+        SpotTimers y = Due.trueClock();
         y.lever(0, 1, 10);
         y.reading(3, 0, 0, 10, 1);
         y.letter(0, 0, 0);
@@ -296,7 +287,7 @@ public final class SumsTest {
     }
 
     private static void tooWellMost() {
-        SpotTimers x = trueClock();
+        SpotTimers x = Due.trueClock();
         x.lever(0, 1, -1);
         for (int i = 0; i < 8; i++) {
             x.reading(3, 0, 0, 1, 1);
@@ -313,7 +304,7 @@ public final class SumsTest {
     }
 
     private static void refusals() {
-        SpotTimers x = trueClock();
+        SpotTimers x = Due.trueClock();
         x.lever(0, 1, 10);
         x.reading(3, 0, 0, 10, 1);
         x.letter(0, 0, 0);

@@ -6,7 +6,10 @@ import java.lang.reflect.Modifier;
 import java.nio.file.Files;
 import java.nio.file.Path;
 import java.util.HashSet;
+import java.util.List;
+import java.util.Map;
 import java.util.Set;
+import java.util.TreeMap;
 import java.util.TreeSet;
 import java.util.regex.Matcher;
 import java.util.regex.Pattern;
@@ -78,6 +81,39 @@ public final class LanguageTest {
                 Set.of("java.util.ArrayList", "java.util.Arrays", "java.util.List").contains(imports.group(1)));
         }
         methodsAreShort(text.split("\n", -1));
+        callsAreShallow(code);
+    }
+
+    /** Calls that are no recursion go at most eight deep, the public call among them. */
+    private static void callsAreShallow(String code) {
+        Map<String, Set<String>> calls = new TreeMap<>();
+        Matcher heads = Pattern.compile("(?m)^( {4}| {8})(?:(?:public|private|static|final) )*[\\w<>\\[\\]]+ (\\w+)"
+            + "\\([^)]*\\) \\{$").matcher(code);
+        while (heads.find()) {
+            int end = code.indexOf("\n" + heads.group(1) + "}", heads.end());
+            Set<String> called = calls.computeIfAbsent(heads.group(2), name -> new TreeSet<>());
+            Matcher call = Pattern.compile("(\\w+)\\(").matcher(code.substring(heads.end(), end));
+            while (call.find()) {
+                called.add(call.group(1));
+            }
+        }
+        Due.due("the methods are found", calls.size() > 100 && calls.keySet().containsAll(List.of(FACE.split(" "))));
+        for (String name : FACE.split(" ")) {
+            int deep = depth(calls, name, new HashSet<>());
+            Due.due(name + " calls " + deep + " deep", deep <= 8);
+        }
+    }
+
+    private static int depth(Map<String, Set<String>> calls, String name, Set<String> open) {
+        int deepest = 0;
+        open.add(name);
+        for (String called : calls.get(name)) {
+            if (calls.containsKey(called) && !open.contains(called)) {
+                deepest = Math.max(deepest, depth(calls, called, open));
+            }
+        }
+        open.remove(name);
+        return deepest + 1;
     }
 
     /** A method stands at an indent of 4 or 8 and ends with the next } of the same indent. */
